@@ -1023,7 +1023,6 @@ public final class PlantedDoubts {
         /** Behind a C: whether another must come. */
         private boolean joins() {
             for (int i = 0; i <= TAPE && fault == 0; i++) {
-                settle(W_NOT);
                 int next = kind();
                 if (next == W_AND || next == W_OR) {
                     settle(next);
@@ -1299,12 +1298,14 @@ public final class PlantedDoubts {
         }
 
         private void reasonOut(int house) {
+            int sure = beds.sureOf(house);
             for (int line = 0; line < garden.reasons.lines; line++) {
                 int thing = garden.reasons.at(line, 0);
                 int from = garden.reasons.at(line, 1);
                 int more = garden.reasons.at(line, 2);
-                if (more > 0 && (from & ~beds.sureOf(house)) == 0) {
+                if (more > 0 && (from & ~sure) == 0) {
                     beds.believe(house, thing, beds.degreeOf(house, thing) + more);
+                    sure = beds.sureOf(house);
                 }
             }
         }
@@ -1417,6 +1418,7 @@ public final class PlantedDoubts {
     private static final class Gifts {
         int all;
         final int[] given = new int[HOUSES];
+        // What a HOUSE may get beside what it is given.
         private final int[] may = new int[HOUSES];
         private final int[] left = new int[THINGS];
         private int tried;
@@ -1458,7 +1460,6 @@ public final class PlantedDoubts {
                     drop(house, t);
                     tried = 0;
                     if (!place(house, 0)) {
-                        may[house] |= bit;
                         hand(house, t);
                     }
                 }

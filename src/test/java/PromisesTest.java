@@ -224,6 +224,11 @@ public final class PromisesTest {
         said(x, 1, "grow 1 when ((((((((1=1))))))));", 1);
         said(x, 1, "grow 1 when not not not not not not not not 1=1 and not not not not not not not not 1=1;", 1);
         said(x, 1, "grow 1 when (not (not (not (not 1=1)))) or (not (not (not (not 1=1))));", 1);
+        said(x, 1, "grow 1" + "-1".repeat(196) + ";", 1);
+        x.pot(0, 0, 0);
+        due("all of it", -99, x.of(0, 6));
+        said(x, 1, "grow 0" + "+1".repeat(90) + " when " + "0=1 or ".repeat(29) + "1=1;", 1);
+        due("all of it", 90, x.of(0, 6));
         said(x, 1, "seed 1;".repeat(16), 16);
         said(x, 0, "0 clashes 1;".repeat(16), 16);
         said(x, 2, "work 0 sure 0;".repeat(12), 12);
@@ -283,6 +288,10 @@ public final class PromisesTest {
         bad(x, 1, "seed 12345;", 1, 5);
         bad(x, 1, "growth 1;", 1, 0);
         bad(x, 1, "gro 1;", 1, 0);
+        for (String letter : new String[] {"a", "z", "A", "Z"}) bad(x, 1, "grow" + letter + " 1;", 1, 0);
+        for (String sign : new String[] {"`", "{", "@", "[", "_", ".", ",", "\u00e9", "\u0000", "\r"}) bad(x, 1, "grow" + sign + " 1;", 1, 4);
+        bad(x, 1, ";".repeat(400), 1, 0);
+        bad(x, 1, "grow 1" + "+1".repeat(197), 1, 400);
         bad(x, 1, "height 1;", 1, 0);
         bad(x, 1, "grow 1 when;", 1, 11);
         bad(x, 1, "grow 1 when 1;", 1, 13);
@@ -375,12 +384,13 @@ public final class PromisesTest {
         no("100", x.water(0, 100));
         no("no such house", x.water(1, 1));
         no("no such house", x.water(-1, 1));
-        yes("60", x.water(0, 60));
+        yes("1", x.water(0, 1));
+        yes("59", x.water(0, 59));
         due("water", 60, x.of(0, 3));
         yes("60 more", x.water(0, 60));
         due("99 at most", 99, x.of(0, 3));
         yes("99", x.water(0, 99));
-        due("what can be undone", 4, x.look(11));
+        due("what can be undone", 5, x.look(11));
         due("lines of the book", 1, x.look(4));
     }
 
@@ -503,6 +513,32 @@ public final class PromisesTest {
         x.state(5);
         x.weeks(1);
         due("no frost, no draw", 5, x.look(5));
+
+        PlantedDoubts f = with(2);
+        said(f, 1, "grow 0;", 1);
+        f.pot(1, 4, 9);
+        f.set(1, 0, 1000);
+        int want = 0;
+        int week = 0;
+        for (boolean there = true; there; week++) {
+            want = 1664525 * want + 1013904223;
+            want = 1664525 * want + 1013904223;
+            there = (want >>> 8) % 10 == 9;
+            f.weeks(1);
+            due("state", want, f.look(5));
+            due("there yet", there ? 4 : NONE, f.of(1, 0));
+        }
+        due("when", week - 1, f.book(1, 0));
+        due("by frost", 3, f.book(1, 1));
+        due("where", 1, f.book(1, 2));
+        due("what", 4, f.book(1, 3));
+        f.set(1, 0, 0);
+        f.set(2, 0, 1);
+        f.pot(0, 1, 1);
+        said(f, 1, "grow 40;", 1);
+        f.state(0);
+        f.weeks(1);
+        due("bees 1: a draw", 1013904223, f.look(5));
 
         PlantedDoubts y = with(4);
         y.set(2, 0, 1000);
@@ -653,6 +689,9 @@ public final class PromisesTest {
         due("all breaches", 152, x.look(2));
         x.weed(3);
         due("no more", 150, x.look(4));
+        due("the first", 7, x.book(7, 2));
+        due("its house", 0, x.book(0, 2));
+        due("its what", 5, x.book(0, 1));
         due("no such", NONE, x.book(150, 0));
         due("no such", NONE, x.book(-1, 0));
         due("no such what", NONE, x.book(0, 4));
@@ -679,6 +718,8 @@ public final class PromisesTest {
         due("the least of two", 1, x.first(2, 0));
         due("at its week", 1, x.first(2, 1));
         due("both", 2, x.first(2, 2));
+        due("what 3", NONE, x.first(2, 3));
+        due("what -1", NONE, x.first(2, -1));
         due("the earliest, though another is less", 1, x.first(9, 0));
         due("its week", 1, x.first(9, 1));
         due("16 and 4 more", 20, x.first(9, 2));
@@ -893,6 +934,11 @@ public final class PromisesTest {
         x.set(0, 0, 2);
         x.talk(0, 5, 0);
         due("5 is in all", 0, x.ask(0, 0));
+        x.talk(NONE, 0, 0);
+        x.set(0, 0, 1);
+        for (int t = 0; t < 7; t++) x.talk(0, t, 1);
+        due("only 7 or nothing", 7, x.ask(0, 0));
+        due("three errors may be", 0, x.ask(0, 3));
     }
 
     private static void waters() {
@@ -915,6 +961,12 @@ public final class PromisesTest {
         due("99 at most", NONE, x.waters(0, 1, 0));
         x.water(0, 51);
         due("60 and as much as 38", 38, x.waters(0, 1, 1));
+        said(x, 1, "grow 0-99 when not water=60;", 1);
+        due("60 and 0 alone", 0, x.waters(0, 1, 1));
+        said(x, 1, "grow 0-99 when water<99;grow 0-99 when week>0;", 2);
+        due("60 and 39", 39, x.waters(0, 1, 0));
+        due("60 and 40", 40, x.waters(0, 1, 1));
+        said(x, 1, "grow 0-99 when water>98;grow 0-99 when water<50;grow 0;", 3);
         due("60 and 0", 0, x.waters(0, 1, 0));
         due("the second week has too little", NONE, x.waters(0, 2, 0));
         said(x, 1, "grow 0-99 when week>2;grow 0;", 2);
@@ -987,6 +1039,7 @@ public final class PromisesTest {
         x.weed(0);
         due("four", 4, x.look(11));
         yes("the weeding", x.undo());
+        due("tender is back", 2, x.of(0, 2));
         due("water is back", 7, x.of(0, 3));
         due("the book is back", 1, x.look(4));
         yes("the watering", x.undo());
