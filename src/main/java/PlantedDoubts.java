@@ -18,6 +18,11 @@ public final class PlantedDoubts {
     private static final int MOST_WATERED_WEEKS = 30;
     private static final int MOST_WATERING = 40;
     private static final int MOST_ERRORS = 3;
+    private static final int MOST_ROOM = 999;
+    private static final int MOST_LINES = 16;
+    private static final int MOST_WORKS = 12;
+    private static final int MOST_NUMBER = 9999;
+    private static final int BEES_HEIGHT = 50;
     private static final int BOOK_LINES = 150;
     private static final int BOOK_WIDTH = 4;
     private static final int MOST_TALKS = 12;
@@ -417,7 +422,7 @@ public final class PlantedDoubts {
     }
 
     public int greenhouses(int c) {
-        if (c < 1 || c > LAST_WEEK) {
+        if (c < 1 || c > MOST_ROOM) {
             return NONE;
         }
         return grounds.fewest(now, c);
@@ -630,13 +635,13 @@ public final class PlantedDoubts {
         // Of each HOUSE the set of those to which it has LINES.
         final int[] lines = new int[HOUSES];
         // THING, set that it is from or clashes with, N or 0.
-        final Text reasons = new Text(16, 0);
+        final Text reasons = new Text(MOST_LINES, 0);
         // Word, where E begins, where E ends and B begins, where B ends.
-        final Text law = new Text(16, TAPE);
+        final Text law = new Text(MOST_LINES, TAPE);
         // HOUSE, 1 sure or 0 doubts, THING.
-        final Text works = new Text(12, 0);
+        final Text works = new Text(MOST_WORKS, 0);
         // WEEK, word, HOUSE, and the one or two numbers that follow.
-        final Text plan = new Text(16, 0);
+        final Text plan = new Text(MOST_LINES, 0);
         final int[] talk = new int[MOST_TALKS * TALK_WIDTH];
         int talks;
         final int[] book = new int[BOOK_LINES * BOOK_WIDTH];
@@ -849,7 +854,7 @@ public final class PlantedDoubts {
         private static final int TOO_MANY = 3;
         private static final int MOST_OPEN = 8;
         private final Tape tape;
-        final Text draft = new Text(16, TAPE);
+        final Text draft = new Text(MOST_LINES, TAPE);
         int fault;
         int place = NONE;
         private int token;
@@ -871,7 +876,7 @@ public final class PlantedDoubts {
                 return false;
             }
             houses = ofHouses;
-            mostLines = k == WORKS ? 12 : 16;
+            mostLines = k == WORKS ? MOST_WORKS : MOST_LINES;
             token = 0;
             draft.clear();
             tape.cut();
@@ -1067,7 +1072,7 @@ public final class PlantedDoubts {
                     draft.emit(S_TIMES);
                 } else if (sign == S_PARTED) {
                     token++;
-                    draft.emit(C_NUMBER + number(1, 9999));
+                    draft.emit(C_NUMBER + number(1, MOST_NUMBER));
                     draft.emit(S_PARTED);
                 } else {
                     if (sum != NONE) {
@@ -1337,7 +1342,7 @@ public final class PlantedDoubts {
         private void fly() {
             int tall = 0;
             for (int house = 0; house < garden.houses; house++) {
-                if (beds.height[house] >= 50) {
+                if (beds.height[house] >= BEES_HEIGHT) {
                     tall |= 1 << house;
                 }
             }
