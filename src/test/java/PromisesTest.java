@@ -241,9 +241,11 @@ public final class PromisesTest {
         due("before any text", NONE, x.fault(1));
         due("what 2", NONE, x.fault(2));
         due("what -1", NONE, x.fault(-1));
-        reasonFaults(x);
-        lawFaults(x);
-        workAndPlanFaults(x);
+        // An object is promised for 512 calls: each part has its own.
+        reasonFaults(with(2));
+        lawFaults(with(2));
+        conditionFaults(with(2));
+        workAndPlanFaults(with(2));
     }
 
     private static void reasonFaults(PlantedDoubts x) {
@@ -293,6 +295,9 @@ public final class PromisesTest {
         bad(x, 1, ";".repeat(400), 1, 0);
         bad(x, 1, "grow 1" + "+1".repeat(197), 1, 400);
         bad(x, 1, "height 1;", 1, 0);
+    }
+
+    private static void conditionFaults(PlantedDoubts x) {
         bad(x, 1, "grow 1 when;", 1, 11);
         bad(x, 1, "grow 1 when 1;", 1, 13);
         bad(x, 1, "grow 1 when 1<2<3;", 1, 15);
