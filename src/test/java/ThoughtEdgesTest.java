@@ -50,6 +50,12 @@ public final class ThoughtEdgesTest extends Edges {
         three("as weeks went by", y, 60, 2, 59, 6);
         y.weeks(58);
         three("at once", y, 1, 1, 60, 2);
+        PlantedDoubts late = with(1);
+        late.set(0, 0, 0);
+        toWeek(late, 999);
+        say(late, 3, "on 999 tell 0 of 7 to 90;");
+        three("in thought WEEK 999 goes by, too", late, 60, 0, 999, 60);
+        due("but only in thought", NONE, late.weeks(1));
         sentence("18: SURE of more than MOST at (f)");
         PlantedDoubts z = with(1);
         z.set(0, 0, 1);
